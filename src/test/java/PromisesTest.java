@@ -331,6 +331,10 @@ public final class PromisesTest {
         own.dance(1);
         due("a call's are taken before an older call that it begins with", () -> Checks.floor(own),
             "430 530 641 651 560 460 353 343");
+        FigureCaller deeper = Checks.with("n=north back", "m=all tr;n", "a=all tr;m");
+        deeper.dance(2);
+        due("a call's within a call within it, before its own first beat", () -> Checks.floor(deeper),
+            "432 532 641 651 550 450 353 343");
         FigureCaller bracket = Checks.with("a=3(north tl)");
         bracket.dance(0);
         due("a bracket's are the call's", () -> Checks.floor(bracket), "431 531 643 653 562 462 351 341");
@@ -379,7 +383,7 @@ public final class PromisesTest {
 
     // Promise 8.
     private static void backward() {
-        FigureCaller x = Checks.with("out=all back;all tl", "n=north back", "m=all tr;n;all stay");
+        FigureCaller x = Checks.with("out=all back;all tl", "n=north back", "m=all stay;n;all tr");
         due("backward(0)", () -> x.backward(0), 2);
         due("the last beat is first, atoms exchanged", () -> Checks.floor(x), "531 631 650 660 463 363 342 332");
         x.home();
@@ -388,7 +392,7 @@ public final class PromisesTest {
         due("there and back", () -> Checks.floor(x), HOME);
         due("both are in the journal", () -> x.home(), 2);
         due("backward(2)", () -> x.backward(2), 3);
-        due("all selectors are taken before", () -> Checks.floor(x), "443 543 642 652 561 461 350 340");
+        due("all selectors are taken before", () -> Checks.floor(x), "333 433 642 652 561 461 350 340");
 
         FigureCaller exchange = Checks.with("a=heads left", "b=heads right", "c=heads tr", "d=heads stay,all fwd");
         exchange.backward(0);
@@ -719,9 +723,11 @@ public final class PromisesTest {
         CHECKS.illegalArgument("same(0, 12)", () -> x.same(0, 12));
         CHECKS.illegalArgument("same(12, 0)", () -> x.same(12, 0));
         CHECKS.illegalArgument("same(-1, 0)", () -> x.same(-1, 0));
-        FigureCaller y = Checks.with("a=4(2(all back))", "b=all stay;4(2(heads back))", "c=4(2(sides back))");
+        FigureCaller y = Checks.with("a=4(2(all back))", "b=all stay;4(2(heads back))", "c=4(2(sides back))", "d=all stay");
         due("both fail wherever they begin", () -> y.same(0, 1), true);
         due("both fail wherever they begin, too", () -> y.same(1, 2), true);
+        due("one fails wherever it begins", () -> y.same(0, 3), false);
+        due("the other fails wherever it begins", () -> y.same(3, 0), false);
         due("same() moves nobody", () -> Checks.floor(y), HOME);
     }
 
