@@ -922,6 +922,10 @@ public final class PromisesTest extends Sentences {
         x.dance(2);
         due("two turns, wherever they stand now", () -> x.same(0, 1), true);
         due("the same from home alone, wherever they stand now", () -> x.same(3, 4), false);
+        FigureCaller spots = Checks.with("a=all tl", "b=front tl,rear tl", "c=rear tl", "d=front tl");
+        due("on home's spots all have nobody before them or nobody behind", () -> spots.same(0, 1), true);
+        due("but not always behind", () -> spots.same(0, 2), false);
+        due("nor always before", () -> spots.same(0, 3), false);
         String[] facings = {"north", "east", "south", "west"};
         for (int turns = 0; turns < 4; turns++) {
             sameButFor(turns, "ends stay,sides stay,follows stay," + facings[turns]);
